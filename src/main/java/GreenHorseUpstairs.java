@@ -647,7 +647,7 @@ public final class GreenHorseUpstairs {
         int leastPossible = fullest(0, 0);
         int best = 0;
         int least = fullestWith(0);
-        int ways = 1 << 3 * now.groups;
+        int ways = 1 << (3 * now.groups);
         for (int firsts = 1; firsts < ways && least > leastPossible; firsts++) {
             int most = fullestWith(firsts);
             if (most < least) {
@@ -659,7 +659,7 @@ public final class GreenHorseUpstairs {
     }
 
     private int firstIn(int firsts, int group) {
-        return firsts >> 3 * (now.groups - 1 - group) & 7;
+        return (firsts >> (3 * (now.groups - 1 - group))) & 7;
     }
 
     private int fullestWith(int firsts) {
@@ -925,11 +925,9 @@ public final class GreenHorseUpstairs {
 
         /** The next room on the way, of several the least; the same room if there is no way. */
         int towards(int from, int to) {
-            if (distance(from, to) == NONE) {
-                return from;
-            }
+            int doors = far[from * ROOMS + to];
             for (int room = 0; room < ROOMS; room++) {
-                if (isOpen(from, room) && far[room * ROOMS + to] < far[from * ROOMS + to]) {
+                if (open[from * ROOMS + room] == 1 && far[room * ROOMS + to] < doors) {
                     return room;
                 }
             }
@@ -1061,7 +1059,7 @@ public final class GreenHorseUpstairs {
         int nextQuestion(int group) {
             for (int i = 0; i < questions; i++) {
                 int question = (first[group] + i) % questions;
-                if (answerOf(group, question) == NONE) {
+                if (sheets[group * MOST_QUESTIONS + question] == NONE) {
                     return question;
                 }
             }
@@ -1116,20 +1114,13 @@ public final class GreenHorseUpstairs {
                 return;
             }
             looked[group]++;
-            if (looked[group] >= minutesFor(question)) {
-                looked[group] = 0;
-                findAnswer(group, question);
+            if (looked[group] < minutesFor(question)) {
+                return;
             }
-        }
-
-        private void findAnswer(int group, int question) {
+            looked[group] = 0;
             int source = wouldCopy(group, question) ? sourceFor(group, question) : NONE;
-            if (source == NONE) {
-                fill(group, question, ownAnswer(group, question));
-            } else {
-                fill(group, question, answerOf(source, question));
-                sources[group * MOST_QUESTIONS + question] = source;
-            }
+            sources[group * MOST_QUESTIONS + question] = source;
+            fill(group, question, source == NONE ? ownAnswer(group, question) : answerOf(source, question));
         }
 
         private boolean wouldCopy(int group, int question) {
@@ -1145,7 +1136,8 @@ public final class GreenHorseUpstairs {
         /** The least other group in the room that has an answer. */
         private int sourceFor(int group, int question) {
             for (int other = 0; other < groups; other++) {
-                if (other != group && at[other] == at[group] && answerOf(other, question) != NONE) {
+                boolean isThere = other != group && at[other] == at[group];
+                if (isThere && sheets[other * MOST_QUESTIONS + question] != NONE) {
                     return other;
                 }
             }

@@ -199,6 +199,8 @@ public final class ChoiceTest {
         GreenHorseUpstairs x = Due.told("d01;d12;d23;ql031;g900;");
         Due.due("shorter", x.newDoor(), 3);
         Due.due("doors", x.count(2), 3);
+        Due.due("to the next number", Due.told("ql011;g900;").newDoor(), 1);
+        Due.due("the last two", Due.told("ql061;g900;a05;").newDoor(), 56);
         Due.due("at last", Due.told("ql061;g900;").newDoor(), 6);
         Due.due("of several the first", Due.told("d12;ql031;g900;g900;a01;a12;").newDoor(), 13);
         Due.due("the lesser ahead", Due.told("ql021;g900;a06;").newDoor(), 26);

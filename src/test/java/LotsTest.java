@@ -3,6 +3,7 @@ public final class LotsTest {
     public static void main(String[] args) {
         promise32();
         promise32Copied();
+        promise32CopiedByTheFirst();
         promise32Refusals();
         promise33();
         promise34();
@@ -57,6 +58,26 @@ public final class LotsTest {
             Due.due("lots(20, " + seed + ", 0)", x.lots(20, seed, 0), right);
             Due.due("lots(20, " + seed + ", 1)", x.lots(20, seed, 1), copied);
         }
+    }
+
+    /** Group 0 is there, and so is group 1 with its answer: copied in the first minute. */
+    private static void promise32CopiedByTheFirst() {
+        int due = 0;
+        long z = 5;
+        for (int museum = 0; museum < 20; museum++) {
+            long[] drawn = new long[4];
+            for (int i = 0; i < 4; i++) {
+                z = (z * 1664525L + 1013904223L) & 0xffffffffL;
+                drawn[i] = (z & 0x7fffffffL) / 256 % (i % 2 == 0 ? 7 : 8);
+            }
+            due += drawn[0] == drawn[2] ? 1 : 0;
+        }
+        int copied = 0;
+        for (int room = 0; room < 7; room++) {
+            copied += Due.told("ql9" + room + "2;g010;g900;w105;").lots(20, 5, 1);
+        }
+        Due.isTrue("some are copied", due > 0);
+        Due.due("copied by group 0, of all rooms", copied, due);
     }
 
     private static void promise32Refusals() {

@@ -184,6 +184,9 @@ public final class ChoiceTest {
         Due.due("two(1, 3), never either way", x.two(1, 3), 0);
         Due.due("two(0, 3)", x.two(0, 3), 10);
         Due.due("FIRST stays", x.group(0, 2), 0);
+        // 14 minutes with the first, 13 with the next, 12 with the one behind it, which is not to be chosen
+        GreenHorseUpstairs third = Due.told("d01;d12;d23;d34;d45;d56;ql061;ql031;ql011;g900;g900;");
+        Due.due("two(0, 1), no third choice", third.two(0, 1), 11);
         // 7 of three questions is the one of number 1, the next one that of number 2
         GreenHorseUpstairs y = Due.told("d01;d12;ql021;ql021;ql011;g907;g907;");
         Due.due("two(0, 1) of 7", y.two(0, 1), 11);

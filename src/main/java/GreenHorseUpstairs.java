@@ -675,12 +675,16 @@ public final class GreenHorseUpstairs {
             <= minutesByChoice(group, 1 - choice, other, otherChoice);
     }
 
-    /** In thought a first may be 8: it is taken by as many questions as there are, like every first. */
     private int minutesByChoice(int group, int choice, int other, int otherChoice) {
         think();
-        thought.first[group] += choice;
-        thought.first[other] += otherChoice;
+        thought.first[group] = firstChosen(group, choice);
+        thought.first[other] = firstChosen(other, otherChoice);
         return minutesTillDone(group);
+    }
+
+    /** What is chosen is a first too, and firsts end at 7: behind it comes 0, however many questions there are. */
+    private int firstChosen(int group, int choice) {
+        return (now.first[group] + choice) % MOST_FIRSTS;
     }
 
     private boolean rowTellsSheetOf(int group) {

@@ -187,15 +187,32 @@ public final class ChoiceTest {
         // 14 minutes with the first, 13 with the next, 12 with the one behind it, which is not to be chosen
         GreenHorseUpstairs third = Due.told("d01;d12;d23;d34;d45;d56;ql061;ql031;ql011;g900;g900;");
         Due.due("two(0, 1), no third choice", third.two(0, 1), 11);
-        // 7 of three questions is the one of number 1, the next one that of number 2
-        GreenHorseUpstairs y = Due.told("d01;d12;ql021;ql021;ql011;g907;g907;");
-        Due.due("two(0, 1) of 7", y.two(0, 1), 11);
+        nextOfSeven();
         Due.due("two(4, 0)", x.two(4, 0), -1);
         Due.due("two(0, 4)", x.two(0, 4), -1);
         Due.due("two(-1, 0)", x.two(-1, 0), -1);
         Due.due("two(0, -1)", x.two(0, -1), -1);
         Due.due("two(1, 1)", x.two(1, 1), -1);
         Due.refusals("two", x, 5, 0, 0, 0, 0);
+    }
+
+    /** FIRST 7 of three questions is the one of number 1; the next one of 7 is 0, not 8, which would be number 2. */
+    private static void nextOfSeven() {
+        // by numbers from 1 on 6 minutes, from 0 on 5, from 2 on 6
+        GreenHorseUpstairs sooner = Due.told("d01;d12;ql011;ql011;ql021;g907;g907;g900;");
+        Due.due("two(0, 1) of 7, 0 is sooner", sooner.two(0, 1), 11);
+        Due.due("two(0, 2) of 7 and 0", sooner.two(0, 2), 10);
+        Due.due("two(2, 0) of 0 and 7", sooner.two(2, 0), 1);
+        Due.due("FIRST stays 7", sooner.group(0, 2), 7);
+        // from 1 on 7 minutes, from 0 on 7, from 2 on 6
+        GreenHorseUpstairs equal = Due.told("d01;d12;ql021;ql011;ql001;g907;g907;");
+        Due.due("two(0, 1) of 7, 8 would be sooner", equal.two(0, 1), 0);
+        // from 0 (FIRST 6) on 6 minutes, from 1 (7) on 5
+        GreenHorseUpstairs six = Due.told("d01;d12;ql021;ql011;ql011;g906;g906;");
+        Due.due("two(0, 1) of 6", six.two(0, 1), 11);
+        // with eight questions 7 is the last one, and 0 behind it
+        GreenHorseUpstairs eight = Due.told("d01;ql001;ql001;ql001;ql001;ql001;ql001;ql001;ql011;g907;g907;");
+        Due.due("two(0, 1) of 7 of eight", eight.two(0, 1), 11);
     }
 
     private static void promise27() {

@@ -659,6 +659,12 @@ final class SlowMuseum {
         return together(now) - together(with(s -> truthOnAll(s, question)));
     }
 
+    private static void choose(Group g, int choice) {
+        if (choice == 1) {
+            g.first = g.first == 7 ? 0 : g.first + 1;
+        }
+    }
+
     int two(int a, int b) {
         if (badGroup(a) || badGroup(b) || a == b) {
             return no(-1);
@@ -669,8 +675,8 @@ final class SlowMuseum {
             int x = pair / 2;
             int y = pair % 2;
             State s = with(t -> {
-                t.groups.get(a).first += x;
-                t.groups.get(b).first += y;
+                choose(t.groups.get(a), x);
+                choose(t.groups.get(b), y);
             });
             first[x][y] = s.done(a);
             second[x][y] = s.done(b);

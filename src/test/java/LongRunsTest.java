@@ -29,8 +29,11 @@ public final class LongRunsTest {
     private final List<String> calls = new ArrayList<>();
     private boolean asDue = true;
 
+    private final boolean isFull;
+
     private LongRunsTest(long seed) {
         random = new Random(seed);
+        isFull = seed % 3 == 0;
     }
 
     public static void main(String[] args) throws ReflectiveOperationException {
@@ -61,6 +64,9 @@ public final class LongRunsTest {
     }
 
     private void run() throws ReflectiveOperationException {
+        if (isFull) {
+            tellBoth(asMuchAsThereMayBe());
+        }
         text(20, true);
         while (calls.size() < CALLS && asDue) {
             int way = random.nextInt(12);
@@ -168,6 +174,18 @@ public final class LongRunsTest {
                 tellBoth(text.toString());
                 text.setLength(0);
             }
+        }
+        return text.toString();
+    }
+
+    /** As many questions and groups as there may be: few runs would come to that by themselves. */
+    private String asMuchAsThereMayBe() {
+        StringBuilder text = new StringBuilder();
+        for (int i = 0; i < 8; i++) {
+            text.append(statement('q'));
+        }
+        for (int i = 0; i < 5; i++) {
+            text.append(statement('g'));
         }
         return text.toString();
     }

@@ -168,6 +168,12 @@ public final class FarthestTest {
         all.put(3, 5);
         all.put(2, 0);
         Due.due("of two and two and one", all.full(0, 2), 5);
+        GreenHorseUpstairs twice = Due.told("d01;d12;d23;ql031;ql001;g990;g990;a02;a12;");
+        Due.due("in room 2 first, in 0 later", twice.full(99, 2), 2);
+        Due.due("behind none", twice.full(99, 1), 0);
+        twice.put(1, 1);
+        Due.due("together behind 2", twice.full(99, 1), 2);
+        Due.due("in room 3 first, in 0 later", twice.full(99, 2), 3);
         GreenHorseUpstairs nobody = new GreenHorseUpstairs();
         Due.due("nobody", nobody.full(0, 0), 0);
         Due.due("nobody, behind", nobody.full(99, 1), 0);
